@@ -1,0 +1,74 @@
+import java.nio.charset.StandardCharsets;
+
+/** What all tests share: telling texts to an object, and counting answers that are not due. */
+final class Check {
+    private final String name;
+    private int asked = 0;
+    private int wrong = 0;
+
+    Check(String name) {
+        this.name = name;
+    }
+
+    void due(String call, long got, long want) {
+        asked++;
+        if (got != want) {
+            wrong++;
+            System.out.println(call + " answered " + got + ", due is " + want);
+        }
+    }
+
+    void due(String call, boolean got, boolean want) {
+        due(call, got ? 1 : 0, want ? 1 : 0);
+    }
+
+    /** Answers of several calls in a row, written as one text. */
+    void due(String call, String got, String want) {
+        asked++;
+        if (!got.equals(want)) {
+            wrong++;
+            System.out.println(call + " answered " + got + ", due is " + want);
+        }
+    }
+
+    void end() {
+        System.out.println(name + ": " + asked + " answers, " + wrong + " not as due");
+        if (wrong != 0 || asked == 0) {
+            System.exit(1);
+        }
+    }
+
+    /** Puts a text on an empty tape. */
+    static void tape(GluedHour x, String text) {
+        byte[] bytes = text.getBytes(StandardCharsets.ISO_8859_1);
+        x.end(0);
+        for (int at = 0; at < bytes.length; at += 20) {
+            x.feed(four(bytes, at), four(bytes, at + 4), four(bytes, at + 8), four(bytes, at + 12), four(bytes, at + 16));
+        }
+        x.end(bytes.length);
+    }
+
+    static int tell(GluedHour x, int sort, int at, String text) {
+        tape(x, text);
+        return x.text(sort, at);
+    }
+
+    /** A new object with these texts, each as a further one of its sort (none for null). */
+    static GluedHour with(String... texts) {
+        GluedHour x = new GluedHour();
+        for (int sort = 0; sort < texts.length; sort++) {
+            if (texts[sort] != null && tell(x, sort, GluedHour.NONE, texts[sort]) != 0) {
+                throw new IllegalStateException("a test's text has a fault: " + texts[sort]);
+            }
+        }
+        return x;
+    }
+
+    static int four(byte[] bytes, int at) {
+        int all = 0;
+        for (int i = at; i < at + 4; i++) {
+            all = all << 8 | (i < bytes.length ? bytes[i] & 255 : 32);
+        }
+        return all;
+    }
+}
