@@ -1,7 +1,14 @@
 import java.nio.charset.StandardCharsets;
+import java.util.function.IntToLongFunction;
 
 /** What all tests share: telling texts to an object, and counting answers that are not due. */
 final class Check {
+    /** Nothing there, as most amounts tell it. */
+    static final int NO = -1000000;
+    /** Two people of whom one rules: values 17 5 12 12 and 2 2 7 2, odds 2 1 1 0 of 4. */
+    static final String TOWN = "hours 4;gain 0 5 twice;loss 1 3 once;gain 2 7 undone;person 10;person 4;does 0 0 0;"
+        + "does 0 1 2;does 1 0 1;does 1 2 0;lot 1 0 2;lot 1 3 0;";
+
     private final String name;
     private int asked = 0;
     private int wrong = 0;
@@ -22,12 +29,10 @@ final class Check {
         due(call, got ? 1 : 0, want ? 1 : 0);
     }
 
-    /** Answers of several calls in a row, written as one text. */
-    void due(String call, String got, String want) {
-        asked++;
-        if (!got.equals(want)) {
-            wrong++;
-            System.out.println(call + " answered " + got + ", due is " + want);
+    /** A call for from, from + 1 and so on, each with the answer due. */
+    void row(String call, int from, IntToLongFunction of, long... want) {
+        for (int i = 0; i < want.length; i++) {
+            due(call + ", at " + (from + i), of.applyAsLong(from + i), want[i]);
         }
     }
 

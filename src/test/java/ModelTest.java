@@ -8,9 +8,10 @@ public final class ModelTest {
     private final Random random;
     private final GluedHour x = new GluedHour();
     private final Model model = new Model();
-    private final StringBuilder story = new StringBuilder();
+    private boolean shown = false;
     private int hours = 8;
     private int people = 0;
+    private int lineSeed = 0;
 
     private ModelTest(long seed) {
         random = new Random(seed);
@@ -24,8 +25,10 @@ public final class ModelTest {
     }
 
     private void run(int seed) {
-        for (int i = 0; i < 6 + random.nextInt(6); i++) {
-            tell(i < 5 ? i : random.nextInt(5), random.nextInt(4) == 0 ? random.nextInt(4) - 1 : -1);
+        for (int sort = 0; sort < 5; sort++) {
+            for (int i = 0; i < 9 && model.count(sort) < 2; i++) {
+                tell(sort, random.nextInt(8) == 0 ? random.nextInt(4) - 1 : -1);
+            }
         }
         for (int i = 0; i < 150; i++) {
             if (random.nextInt(25) == 0) {
@@ -33,16 +36,14 @@ public final class ModelTest {
             }
             call(random.nextInt(31));
         }
-        if (story.length() > 0) {
-            System.out.println("run " + seed + " told: " + story);
+        if (shown) {
+            System.out.println("(so much of run " + seed + ")");
         }
     }
 
     private void due(String call, long got, long want) {
         CHECK.due(call, got, want);
-        if (got != want && story.length() == 0) {
-            story.append("(above)");
-        }
+        shown |= got != want;
     }
 
     private void changes() {
@@ -98,6 +99,7 @@ public final class ModelTest {
 
     private String textOf(int sort) {
         StringBuilder b = new StringBuilder();
+        lineSeed = random.nextInt();
         if (sort == 0) {
             republic(b);
         }
@@ -110,10 +112,20 @@ public final class ModelTest {
                     line(b, "errand", rare(6, 7), from, random.nextInt(30) == 0 ? from - 1 : from + random.nextInt(Math.max(1, 12 - from)));
                 }
                 case 3 -> line(b, "train", Math.min(11, i * (1 + random.nextInt(3)) + random.nextInt(2)), 1 + rare(3, 9));
-                default -> line(b, random.nextInt(3) == 0 ? "owes" : "has", 1 + rare(3, 4), rare(people, 6), random.nextInt(20));
+                default -> sight(b);
             }
         }
         return b.toString();
+    }
+
+    /** Mostly a purse that some hours bring. */
+    private void sight(StringBuilder b) {
+        int days = 1 + random.nextInt(3);
+        int who = rare(model.republic(0, 1), 6);
+        int seen = model.drawn(0, lineSeed, days, who);
+        boolean fits = seen > -1000 && seen < 1000 && random.nextInt(6) != 0;
+        int purse = fits ? seen : random.nextInt(20) - 5;
+        line(b, purse < 0 || purse == 0 && random.nextBoolean() ? "owes" : "has", rare(1, 40) == 0 ? days : 4, who, Math.abs(purse));
     }
 
     private int rare(int usual, int seldom) {
@@ -165,17 +177,18 @@ public final class ModelTest {
         return random.nextInt(size + 2) - 1;
     }
 
-    /** A number of one of a sort: mostly 0, which mostly is there. */
-    private int one() {
-        return random.nextInt(3) == 0 ? random.nextInt(5) - 1 : random.nextInt(2);
+    /** Mostly one that is there, if there are so many. */
+    private int some(int size) {
+        return size == 0 || random.nextInt(12) == 0 ? any(size) : random.nextInt(size);
     }
 
     private void call(int which) {
-        int r = one();
-        int p = any(people);
-        int h = random.nextInt(9) == 0 ? random.nextInt(16) - 2 : any(hours);
-        int g = any(hours);
-        int o = one();
+        int r = some(2);
+        int there = Math.max(0, model.republic(r, 0));
+        int p = some(Math.max(0, model.republic(r, 1)));
+        int h = random.nextInt(9) == 0 ? random.nextInt(16) - 2 : some(there);
+        int g = some(there);
+        int o = some(2);
         boolean u = random.nextBoolean();
         int w = any(45);
         String args = "(" + r + ", " + o + ", p " + p + ", h " + h + ", g " + g + ", w " + w + ", " + u + ")";
@@ -190,13 +203,13 @@ public final class ModelTest {
     }
 
     private void call2(int which, int r, int p, int h, int g, int o, boolean u) {
-        int n = any(which == 6 ? 8 : 15);
-        int w = any(8);
-        int few = any(3);
-        int draws = any(61);
+        int n = some(Math.max(0, model.day(o, -1)) + 1);
+        int w = some(5);
+        int few = some(3);
+        int draws = some(61);
         int seed = random.nextInt();
-        int mark = new int[] {any(6), 10, 11, 20 + any(12), 100 + any(60)}[random.nextInt(5)];
-        int deep = new int[] {any(7), 10 + any(4), 20 + any(4)}[random.nextInt(3)];
+        int mark = new int[] {some(3), 10, 11, 20 + some(6), 100 + some(Math.max(0, draws))}[random.nextInt(5)];
+        int deep = new int[] {some(7), 10 + some(3), 20 + some(3)}[random.nextInt(3)];
         String a = "(r " + r + ", o " + o + ", p " + p + ", h " + h + ", g " + g + ", n " + n + ", w " + w + ", few " + few
             + ", draws " + draws + ", seed " + seed + ", mark " + mark + ", deep " + deep + ", " + u + ")";
         switch (which) {
