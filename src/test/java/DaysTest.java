@@ -41,6 +41,9 @@ public final class DaysTest {
         CHECK.due("all days", y.purse(0, 0, 14, 1), 3);
         CHECK.due("one day too many", y.purse(0, 0, 15, 1), NO);
         CHECK.due("poorest then", y.purse(0, 0, 14, NONE), 0);
+        GluedHour z = Check.with(Check.TOWN, "stuck 4;stuck 0;");
+        CHECK.row("stops at once", 0, n -> z.purse(0, 0, n, 0), 10, NO, NO);
+        CHECK.row("no odds behind it", 0, n -> z.likely(0, 0, n, true), 1, NONE, NONE);
     }
 
     private static void likely() {

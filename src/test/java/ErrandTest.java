@@ -80,6 +80,10 @@ public final class ErrandTest {
         // Hour 3 has no odds, so nobody regrets it.
         CHECK.due("no odds", with(Check.TOWN, "errand 0 3 3;errand 0 2 3;").plan(0, 0, 6), NONE);
         CHECK.due("the least of several", with("hours 4;gain 0 3 twice;", "errand 0 0 3;").plan(0, 0, 6), 1);
+        CHECK.due("by no more than 1", with("hours 4;gain 0 1 twice;", "errand 0 0 3;").plan(0, 0, 6), 1);
+        // Blind 1, 0, worth 12, 9, 7, 7 by the stuck hour; knowing it 12, 12, 12, 9.
+        GluedHour two = with("hours 4;gain 0 5 twice;gain 1 2 twice;person 0;lot 0 0 9;lot 0 1 9;", "errand 1 1 3;errand 0 0 2;");
+        CHECK.row("of two", 0, w -> two.plan(0, 0, w), 203, 20, 237, 20, 17, 10, 2);
         // What is undone is better elsewhere: its hour is regretted.
         GluedHour x = with("hours 2;gain 0 3 undone;person 0;lot 0 0 2;", "errand 0 0 1;");
         CHECK.row("undone", 0, w -> x.plan(0, 0, w), 2, 1, 3, 1, 1, 1, 1);

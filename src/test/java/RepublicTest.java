@@ -134,6 +134,8 @@ public final class RepublicTest {
         CHECK.due("shift of NONE", x.shift(0, NONE, 0), NO);
         GluedHour y = Check.with("hours 4;gain 0 5 twice;person 0;does 0 0 0;does 0 1 0;lot 0 2 3;lot 0 3 3;");
         CHECK.row("the first by rows", 0, w -> y.shift(0, 0, w), 0, 2, 25, 2);
+        GluedHour z = Check.with("hours 2;gain 0 5 twice;person 0;does 0 1 0;lot 0 0 3;");
+        CHECK.row("to hour 0", 0, w -> z.shift(0, 0, w), 1, 0, 35, 4);
     }
 
     private static void feuds() {
@@ -142,6 +144,8 @@ public final class RepublicTest {
         // Together the two differ by nothing, each by himself by 8.
         GluedHour y = Check.with("hours 3;gain 0 4 twice;loss 1 4 twice;person 0;person 0;does 0 2 0;does 1 2 1;");
         CHECK.row("each by himself", 0, w -> y.feud(0, w), 0, 2, 8);
+        GluedHour z = Check.with("hours 4;gain 0 4 twice;loss 1 4 twice;person 0;does 0 2 0;does 0 3 1;");
+        CHECK.row("next to one another", 0, w -> z.feud(0, w), 2, 3, 8);
     }
 
     private static void rulings() {
@@ -149,6 +153,10 @@ public final class RepublicTest {
         CHECK.row("ruling", -1, w -> x.ruling(0, w), NO, 2, 0, 39, 2, NO);
         GluedHour y = Check.with("hours 2;loss 3 4 twice;person 0;does 0 0 3;");
         CHECK.row("what is undone", 0, w -> y.ruling(0, w), 3, 2, -2, 1);
+        GluedHour first = Check.with("hours 2;gain 0 4 undone;gain 1 3 undone;person 0;does 0 0 0;does 0 1 1;");
+        CHECK.row("kind 0", 0, w -> first.ruling(0, w), 0, 0, 15, 2);
+        GluedHour second = Check.with("hours 2;gain 1 4 undone;person 0;does 0 0 1;");
+        CHECK.row("kind 1", 0, w -> second.ruling(0, w), 1, 0, 6, 1);
         // As it is: every kind that nobody does changes nothing, so kind 0 comes first.
         GluedHour z = Check.with("hours 2;gain 3 4 twice;person 0;does 0 0 3;");
         CHECK.row("the first by rows", 0, w -> z.ruling(0, w), 0, 0, 6, 1);

@@ -38,6 +38,9 @@ public final class SightTest {
         CHECK.row("fits", -1, w -> x.fits(0, 0, w), -2, 1, -2);
         CHECK.row("sure", 9, w -> x.fits(0, 0, w), -2, 2, -2);
         CHECK.row("maybe", 19, w -> x.fits(0, 0, w), -2, 4, -2);
+        GluedHour z = with(Check.TOWN, "has 1 0 27;");
+        CHECK.due("sure of hour 0", z.fits(0, 0, 10), 0);
+        CHECK.due("maybe hour 0", z.fits(0, 0, 20), 1);
         GluedHour y = with(Check.TOWN, "has 1 0 23;");
         CHECK.due("never", y.fits(0, 0, 0), 0);
         CHECK.due("never sure", y.fits(0, 0, 10), NONE);

@@ -11,11 +11,13 @@ public final class TapeTest {
         text();
         textWithoutPlace();
         syntax();
+        cutOff();
         numbers();
         tooMany();
         notThere();
         laterOnes();
         images();
+        wholeImages();
         CHECK.end();
     }
 
@@ -137,6 +139,8 @@ public final class TapeTest {
         fault(0, "hours 4 5;", 1, 8);
         fault(0, "hour 4;", 1, 0);
         fault(0, "hourss 4;", 1, 0);
+        fault(0, "xours 4;", 1, 0);
+        fault(0, "hours 4zz;", 1, 7);
         fault(0, "Hours 4;", 1, 0);
         fault(0, "hours 4;\thours 4;", 1, 8);
         fault(0, "hours\r4;", 1, 5);
@@ -159,6 +163,22 @@ public final class TapeTest {
         fault(0, "hours 1;x", 1, 8);
         fault(0, "gain 6 0 once;does 0 0 0", 1, 24);
         fault(1, "stuck 12;stuck", 1, 14);
+    }
+
+    /** What stood behind the end is no part of the text, though the tape had it once. */
+    private static void cutOff() {
+        cut("hours 12;", 7, 7);
+        cut("gain 0 1 once;", 12, 9);
+        cut("hours 4;  x", 10, NONE);
+        cut("hours 4;", 7, 7);
+    }
+
+    private static void cut(String text, int n, int place) {
+        GluedHour x = new GluedHour();
+        Check.tape(x, text);
+        CHECK.due("end of " + text, x.end(n), n);
+        CHECK.due("text of " + text, x.text(0, NONE), place == NONE ? 0 : NONE);
+        CHECK.due("place of " + text, x.fault(1), place);
     }
 
     private static void numbers() {
@@ -252,6 +272,27 @@ public final class TapeTest {
         Check.tell(x, 0, 0, "person 1;person 1;");
         CHECK.due("a new text forgets deeds", x.person(0, 0, 11), NONE);
         CHECK.due("a new text forgets lots", x.person(0, 1, 34), 1);
+    }
+
+    /** The last of everything is in an image, too. */
+    private static void wholeImages() {
+        GluedHour x = Check.with("hours 12;person 1;person 2;person 3;person 4;person 5;person 6;gain 5 9 undone;does 5 11 5;"
+            + "lot 5 11 7;", "stuck 0;".repeat(13) + "stuck 9;", "errand 0 0 0;".repeat(5) + "errand 5 6 7;",
+            "train 0 1;".repeat(7) + "train 8 9;", "has 1 0 0;".repeat(5) + "has 3 5 7;");
+        x.image(1);
+        for (int sort = 0; sort < 5; sort++) {
+            Check.tell(x, sort, 0, "");
+        }
+        CHECK.due("again", x.again(1), true);
+        CHECK.due("purse", x.person(0, 5, 0), 6);
+        CHECK.due("deed", x.person(0, 5, 21), 5);
+        CHECK.due("lot", x.person(0, 5, 41), 7);
+        CHECK.due("worth", x.republic(0, 15), 9);
+        CHECK.due("mode", x.republic(0, 25), 2);
+        CHECK.due("day", x.day(0, 13), 9);
+        CHECK.row("errand", 0, w -> x.errand(0, 5, w), 5, 6, 7);
+        CHECK.row("train", 0, w -> x.train(0, 7, w), 8, 9);
+        CHECK.row("sight", 0, w -> x.sight(0, 5, w), 3, 5, 7);
     }
 
     private static void images() {

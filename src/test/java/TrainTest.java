@@ -9,6 +9,7 @@ public final class TrainTest {
         doesNotHold();
         fewTrains();
         least();
+        leastByOtherHours();
         leastAboveEleven();
         clock();
         tight();
@@ -77,6 +78,14 @@ public final class TrainTest {
         CHECK.row("from hour 1", 0, k -> one.clock(0, 0, k, NONE), 1, 4);
     }
 
+    /** What is no hour 0 .. 11 asks for the least table, as the promise's words have it. */
+    private static void leastByOtherHours() {
+        GluedHour x = with(Check.TOWN, "train 0 2;train 2 1;");
+        for (int hour : new int[] {Integer.MIN_VALUE, -2, NONE, 12, 13, Integer.MAX_VALUE}) {
+            CHECK.row("least by " + hour, -1, k -> x.clock(0, 0, k, hour), NONE, 0, 2, NONE);
+        }
+    }
+
     private static void leastAboveEleven() {
         GluedHour x = with("hours 12;", "train 11 9;".repeat(8));
         CHECK.row("least", 0, k -> x.clock(0, 0, k, NONE), 11, 20, 29, 38, 47, 56, 65, 74, NONE);
@@ -94,6 +103,7 @@ public final class TrainTest {
     }
 
     private static void tight() {
+        CHECK.due("of two", with(Check.TOWN, "train 0 1;train 5 5;").tight(0, 0), 0);
         CHECK.due("last but one", with(Check.TOWN, "train 0 1;train 5 5;train 9 9;").tight(0, 0), 1);
         CHECK.due("the least of several", with(Check.TOWN, "train 0 1;train 4 4;train 8 3;train 11 2;").tight(0, 0), 1);
         // By stuck hours: 0 to 2 has 2 or 3 hours, 2 to 4 has 3 or 2.
