@@ -157,6 +157,8 @@ public final class RepublicTest {
         CHECK.row("kind 0", 0, w -> first.ruling(0, w), 0, 0, 15, 2);
         GluedHour second = Check.with("hours 2;gain 1 4 undone;person 0;does 0 0 1;");
         CHECK.row("kind 1", 0, w -> second.ruling(0, w), 1, 0, 6, 1);
+        GluedHour loss = Check.with("hours 2;loss 0 4 once;person 0;does 0 0 0;");
+        CHECK.row("a loss of kind 0", 0, w -> loss.ruling(0, w), 0, 2, -2, 1);
         // As it is: every kind that nobody does changes nothing, so kind 0 comes first.
         GluedHour z = Check.with("hours 2;gain 3 4 twice;person 0;does 0 0 3;");
         CHECK.row("the first by rows", 0, w -> z.ruling(0, w), 0, 0, 6, 1);
