@@ -73,6 +73,9 @@ public final class GluedHour {
     }
 
     public int text(int sort, int at) {
+        // Whatever becomes of it, the tape is taken: it is empty behind each text().
+        int length = told.length;
+        told.length = 0;
         told.fault = 0;
         told.place = NONE;
         if (sort < 0 || sort >= SORTS) {
@@ -84,8 +87,7 @@ public final class GluedHour {
         if (!there) {
             return NO_SUCH;
         }
-        reader.read(told.length, sort);
-        told.length = 0;
+        reader.read(length, sort);
         told.fault = reader.fault;
         told.place = reader.place;
         if (told.fault != 0) {

@@ -106,6 +106,8 @@ final class Model {
     }
 
     int text(int sort, int at) {
+        byte[] bytes = tape;
+        tape = new byte[0];
         fault = 0;
         place = -1;
         if (sort < 0 || sort > 4) {
@@ -115,8 +117,6 @@ final class Model {
         if (at == -1 ? size == 2 : at < 0 || at >= size) {
             return -2;
         }
-        byte[] bytes = tape;
-        tape = new byte[0];
         Rep rep = new Rep();
         List<int[]> list = new ArrayList<>();
         read(bytes, sort, rep, list);

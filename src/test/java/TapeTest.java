@@ -87,7 +87,7 @@ public final class TapeTest {
         CHECK.due("makes none", x.count(2), 1);
     }
 
-    /** Where there is no place for it, no text is read, and the tape stays. */
+    /** Where there is no place for it, no text is read, but the tape is taken all the same. */
     private static void textWithoutPlace() {
         GluedHour x = new GluedHour();
         int[][] wrong = {{-1, NONE}, {5, NONE}, {0, 0}, {0, 1}, {0, -2}, {4, 0}, {Integer.MAX_VALUE, 0}};
@@ -98,13 +98,16 @@ public final class TapeTest {
             CHECK.due("text(" + w[0] + ", " + w[1] + ")", x.text(w[0], w[1]), -2);
             CHECK.due("fault", x.fault(0), 0);
             CHECK.due("place", x.fault(1), NONE);
-            CHECK.due("the tape stays", x.end(8), 8);
+            CHECK.due("the tape is empty then", x.end(1), NONE);
+            CHECK.due("and takes twenty bytes from its beginning", x.feed(0, 0, 0, 0, 0), 20);
+            CHECK.due("emptied", x.end(0), 0);
         }
         CHECK.due("first", x.text(1, NONE), 0);
         CHECK.due("in the place of one that is not there", Check.tell(x, 1, 1, "stuck 3;"), -2);
         CHECK.due("second", x.text(1, NONE), 1);
         CHECK.due("third", Check.tell(x, 1, NONE, "?"), -2);
         CHECK.due("third, fault", x.fault(0), 0);
+        CHECK.due("third, tape", x.end(1), NONE);
         CHECK.due("at 2", x.text(1, 2), -2);
         CHECK.due("count", x.count(1), 2);
     }
