@@ -36,6 +36,20 @@ final class Check {
         }
     }
 
+    /** A text to a new object, as a further one: the fault due, and its place. */
+    void fault(int sort, String text, int fault, int place) {
+        GluedHour x = new GluedHour();
+        due("text " + text, tell(x, sort, GluedHour.NONE, text), fault == 0 ? 0 : GluedHour.NONE);
+        due("fault of " + text, x.fault(0), fault);
+        due("place of " + text, x.fault(1), place);
+        due("count behind " + text, x.count(sort), fault == 0 ? 1 : 0);
+    }
+
+    /** A text without a fault. */
+    void good(int sort, String text) {
+        fault(sort, text, 0, GluedHour.NONE);
+    }
+
     void end() {
         System.out.println(name + ": " + asked + " answers, " + wrong + " not as due");
         if (wrong != 0 || asked == 0) {

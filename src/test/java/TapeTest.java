@@ -112,60 +112,47 @@ public final class TapeTest {
         CHECK.due("count", x.count(1), 2);
     }
 
-    private static void fault(int sort, String text, int fault, int place) {
-        GluedHour x = new GluedHour();
-        CHECK.due("text " + text, Check.tell(x, sort, NONE, text), fault == 0 ? 0 : NONE);
-        CHECK.due("fault of " + text, x.fault(0), fault);
-        CHECK.due("place of " + text, x.fault(1), place);
-        CHECK.due("fault(2)", x.fault(2), NONE);
-        CHECK.due("fault(-1)", x.fault(-1), NONE);
-    }
-
-    private static void good(int sort, String text) {
-        fault(sort, text, 0, NONE);
-    }
-
     private static void syntax() {
-        good(0, "");
-        good(0, " \n ");
-        good(0, "hours4;");
-        good(0, "hours\n4 ;  ");
-        good(0, "gain 0 1twice;loss 1 2once;gain 2 3undone;");
-        good(0, "hours 004;person 000;");
-        good(4, "has 1 0 5;owes 3 5 999;");
-        fault(0, "hours 4", 1, 7);
-        fault(0, "hours 4  ", 1, 9);
-        fault(0, "hours", 1, 5);
-        fault(0, "hours ;", 1, 6);
-        fault(0, "hours four;", 1, 6);
-        fault(0, "hours 4;;", 1, 8);
-        fault(0, "hours 4 5;", 1, 8);
-        fault(0, "hour 4;", 1, 0);
-        fault(0, "hourss 4;", 1, 0);
-        fault(0, "xours 4;", 1, 0);
-        fault(0, "hours 4zz;", 1, 7);
-        fault(0, "Hours 4;", 1, 0);
-        fault(0, "hours 4;\thours 4;", 1, 8);
-        fault(0, "hours\r4;", 1, 5);
-        fault(0, "hours 4;\u00e9", 1, 8);
-        fault(0, "person 1000;", 1, 7);
-        fault(0, "person 0001;", 1, 7);
-        fault(0, "person -1;", 1, 7);
-        fault(0, "4;", 1, 0);
-        fault(0, "gain 0 1;", 1, 8);
-        fault(0, "gain 0 1 twiceonce;", 1, 9);
-        fault(0, "gain 0 1 5;", 1, 9);
-        fault(0, "lot 0 0;", 1, 7);
-        fault(0, "stuck 0;", 1, 0);
-        fault(1, "hours 4;", 1, 0);
-        fault(1, "stuck 0;errand 0 0 0;", 1, 8);
-        fault(2, "errand 0 0;", 1, 10);
-        fault(3, "train 0 1 1;", 1, 10);
-        fault(4, "sees 1 0 5;", 1, 0);
+        CHECK.good(0, "");
+        CHECK.good(0, " \n ");
+        CHECK.good(0, "hours4;");
+        CHECK.good(0, "hours\n4 ;  ");
+        CHECK.good(0, "gain 0 1twice;loss 1 2once;gain 2 3undone;");
+        CHECK.good(0, "hours 004;person 000;");
+        CHECK.good(4, "has 1 0 5;owes 3 5 999;");
+        CHECK.fault(0, "hours 4", 1, 7);
+        CHECK.fault(0, "hours 4  ", 1, 9);
+        CHECK.fault(0, "hours", 1, 5);
+        CHECK.fault(0, "hours ;", 1, 6);
+        CHECK.fault(0, "hours four;", 1, 6);
+        CHECK.fault(0, "hours 4;;", 1, 8);
+        CHECK.fault(0, "hours 4 5;", 1, 8);
+        CHECK.fault(0, "hour 4;", 1, 0);
+        CHECK.fault(0, "hourss 4;", 1, 0);
+        CHECK.fault(0, "xours 4;", 1, 0);
+        CHECK.fault(0, "hours 4zz;", 1, 7);
+        CHECK.fault(0, "Hours 4;", 1, 0);
+        CHECK.fault(0, "hours 4;\thours 4;", 1, 8);
+        CHECK.fault(0, "hours\r4;", 1, 5);
+        CHECK.fault(0, "hours 4;\u00e9", 1, 8);
+        CHECK.fault(0, "person 1000;", 1, 7);
+        CHECK.fault(0, "person 0001;", 1, 7);
+        CHECK.fault(0, "person -1;", 1, 7);
+        CHECK.fault(0, "4;", 1, 0);
+        CHECK.fault(0, "gain 0 1;", 1, 8);
+        CHECK.fault(0, "gain 0 1 twiceonce;", 1, 9);
+        CHECK.fault(0, "gain 0 1 5;", 1, 9);
+        CHECK.fault(0, "lot 0 0;", 1, 7);
+        CHECK.fault(0, "stuck 0;", 1, 0);
+        CHECK.fault(1, "hours 4;", 1, 0);
+        CHECK.fault(1, "stuck 0;errand 0 0 0;", 1, 8);
+        CHECK.fault(2, "errand 0 0;", 1, 10);
+        CHECK.fault(3, "train 0 1 1;", 1, 10);
+        CHECK.fault(4, "sees 1 0 5;", 1, 0);
         // A fault 1 goes ahead of all others, wherever it is.
-        fault(0, "hours 1;x", 1, 8);
-        fault(0, "gain 6 0 once;does 0 0 0", 1, 24);
-        fault(1, "stuck 12;stuck", 1, 14);
+        CHECK.fault(0, "hours 1;x", 1, 8);
+        CHECK.fault(0, "gain 6 0 once;does 0 0 0", 1, 24);
+        CHECK.fault(1, "stuck 12;stuck", 1, 14);
     }
 
     /** What stood behind the end is no part of the text, though the tape had it once. */
@@ -185,75 +172,75 @@ public final class TapeTest {
     }
 
     private static void numbers() {
-        good(0, "hours 2;");
-        good(0, "hours 12;");
-        good(0, "gain 5 99 once;loss 0 99 twice;gain 1 0 undone;loss 2 0 once;");
-        good(0, "person 999;");
-        good(0, "hours 12;person 0;person 0;person 0;person 0;person 0;person 0;does 5 11 5;lot 5 11 9;lot 0 0 0;");
-        good(1, "stuck 11;");
-        good(2, "errand 5 11 11;errand 0 0 11;");
-        good(3, "train 11 9;train 0 1;");
-        good(4, "has 3 5 999;owes 1 0 0;");
-        fault(0, "hours 1;", 2, 6);
-        fault(0, "hours 13;", 2, 6);
-        fault(0, "hours 0;", 2, 6);
-        fault(0, "gain 6 0 once;", 2, 5);
-        fault(0, "gain 0 100 once;", 2, 7);
-        fault(0, "loss 6 100 once;", 2, 5);
-        fault(0, "loss 0 100 once;", 2, 7);
-        fault(0, "does 6 12 6;", 2, 5);
-        fault(0, "does 0 12 6;", 2, 7);
-        fault(0, "does 0 0 6;", 2, 9);
-        fault(0, "lot 6 0 0;", 2, 4);
-        fault(0, "lot 0 12 0;", 2, 6);
-        fault(0, "lot 0 0 10;", 2, 8);
-        fault(1, "stuck 12;", 2, 6);
-        fault(2, "errand 6 0 0;", 2, 7);
-        fault(2, "errand 0 12 12;", 2, 9);
-        fault(2, "errand 0 0 12;", 2, 11);
-        fault(2, "errand 0 2 1;", 2, 11);
-        fault(3, "train 12 1;", 2, 6);
-        fault(3, "train 0 0;", 2, 8);
-        fault(3, "train 0 10;", 2, 8);
-        fault(4, "has 0 0 1;", 2, 4);
-        fault(4, "has 4 0 1;", 2, 4);
-        fault(4, "owes 1 6 1;", 2, 7);
+        CHECK.good(0, "hours 2;");
+        CHECK.good(0, "hours 12;");
+        CHECK.good(0, "gain 5 99 once;loss 0 99 twice;gain 1 0 undone;loss 2 0 once;");
+        CHECK.good(0, "person 999;");
+        CHECK.good(0, "hours 12;person 0;person 0;person 0;person 0;person 0;person 0;does 5 11 5;lot 5 11 9;lot 0 0 0;");
+        CHECK.good(1, "stuck 11;");
+        CHECK.good(2, "errand 5 11 11;errand 0 0 11;");
+        CHECK.good(3, "train 11 9;train 0 1;");
+        CHECK.good(4, "has 3 5 999;owes 1 0 0;");
+        CHECK.fault(0, "hours 1;", 2, 6);
+        CHECK.fault(0, "hours 13;", 2, 6);
+        CHECK.fault(0, "hours 0;", 2, 6);
+        CHECK.fault(0, "gain 6 0 once;", 2, 5);
+        CHECK.fault(0, "gain 0 100 once;", 2, 7);
+        CHECK.fault(0, "loss 6 100 once;", 2, 5);
+        CHECK.fault(0, "loss 0 100 once;", 2, 7);
+        CHECK.fault(0, "does 6 12 6;", 2, 5);
+        CHECK.fault(0, "does 0 12 6;", 2, 7);
+        CHECK.fault(0, "does 0 0 6;", 2, 9);
+        CHECK.fault(0, "lot 6 0 0;", 2, 4);
+        CHECK.fault(0, "lot 0 12 0;", 2, 6);
+        CHECK.fault(0, "lot 0 0 10;", 2, 8);
+        CHECK.fault(1, "stuck 12;", 2, 6);
+        CHECK.fault(2, "errand 6 0 0;", 2, 7);
+        CHECK.fault(2, "errand 0 12 12;", 2, 9);
+        CHECK.fault(2, "errand 0 0 12;", 2, 11);
+        CHECK.fault(2, "errand 0 2 1;", 2, 11);
+        CHECK.fault(3, "train 12 1;", 2, 6);
+        CHECK.fault(3, "train 0 0;", 2, 8);
+        CHECK.fault(3, "train 0 10;", 2, 8);
+        CHECK.fault(4, "has 0 0 1;", 2, 4);
+        CHECK.fault(4, "has 4 0 1;", 2, 4);
+        CHECK.fault(4, "owes 1 6 1;", 2, 7);
         // The first by place.
-        fault(1, "stuck 0;stuck 99;stuck 12;", 2, 14);
+        CHECK.fault(1, "stuck 0;stuck 99;stuck 12;", 2, 14);
     }
 
     private static void tooMany() {
-        good(0, "person 0;".repeat(6));
-        good(1, "stuck 0;".repeat(14));
-        good(2, "errand 0 0 0;".repeat(6));
-        good(3, "train 0 1;".repeat(8));
-        good(4, "has 1 0 1;owes 1 0 1;".repeat(3));
-        fault(0, "person 0;".repeat(7), 3, 54);
-        fault(0, "person 0;".repeat(8), 3, 54);
-        fault(1, "stuck 0;".repeat(14) + " stuck 0;", 3, 113);
-        fault(2, "errand 0 0 0;".repeat(7), 3, 78);
-        fault(3, "train 0 1;".repeat(9), 3, 80);
-        fault(4, "has 1 0 1;".repeat(7), 3, 60);
-        fault(4, "has 1 0 1;".repeat(6) + "owes 1 0 1;", 3, 60);
+        CHECK.good(0, "person 0;".repeat(6));
+        CHECK.good(1, "stuck 0;".repeat(14));
+        CHECK.good(2, "errand 0 0 0;".repeat(6));
+        CHECK.good(3, "train 0 1;".repeat(8));
+        CHECK.good(4, "has 1 0 1;owes 1 0 1;".repeat(3));
+        CHECK.fault(0, "person 0;".repeat(7), 3, 54);
+        CHECK.fault(0, "person 0;".repeat(8), 3, 54);
+        CHECK.fault(1, "stuck 0;".repeat(14) + " stuck 0;", 3, 113);
+        CHECK.fault(2, "errand 0 0 0;".repeat(7), 3, 78);
+        CHECK.fault(3, "train 0 1;".repeat(9), 3, 80);
+        CHECK.fault(4, "has 1 0 1;".repeat(7), 3, 60);
+        CHECK.fault(4, "has 1 0 1;".repeat(6) + "owes 1 0 1;", 3, 60);
         // By place: the seventh comes ahead of its own number, and behind a wrong number ahead of it.
-        fault(1, "stuck 0;".repeat(14) + "stuck 12;", 3, 112);
-        fault(1, "stuck 0;".repeat(13) + "stuck 12;stuck 0;", 2, 110);
-        fault(1, "stuck 12;" + "stuck 0;".repeat(14), 2, 6);
+        CHECK.fault(1, "stuck 0;".repeat(14) + "stuck 12;", 3, 112);
+        CHECK.fault(1, "stuck 0;".repeat(13) + "stuck 12;stuck 0;", 2, 110);
+        CHECK.fault(1, "stuck 12;" + "stuck 0;".repeat(14), 2, 6);
         // Both go ahead of what is not there.
-        fault(0, "does 0 0 0;" + "person 0;".repeat(7) + "lot 5 9 0;", 3, 65);
+        CHECK.fault(0, "does 0 0 0;" + "person 0;".repeat(7) + "lot 5 9 0;", 3, 65);
     }
 
     private static void notThere() {
-        fault(0, "does 0 0 0;", 4, 11);
-        fault(0, "does 0 0 0; \n", 4, 13);
-        fault(0, "lot 0 0 0;", 4, 10);
-        fault(0, "person 0;does 0 8 0;", 4, 20);
-        fault(0, "person 0;lot 0 8 0;", 4, 19);
-        fault(0, "person 0;lot 1 0 0;", 4, 19);
-        fault(0, "hours 9;person 0;does 0 8 0;hours 8;", 4, 36);
-        good(0, "does 0 8 0;lot 0 8 2;hours 9;person 0;");
-        good(0, "hours 2;hours 9;person 0;does 0 8 0;");
-        fault(0, "does 0 0 0;gain 6 0 once;", 2, 16);
+        CHECK.fault(0, "does 0 0 0;", 4, 11);
+        CHECK.fault(0, "does 0 0 0; \n", 4, 13);
+        CHECK.fault(0, "lot 0 0 0;", 4, 10);
+        CHECK.fault(0, "person 0;does 0 8 0;", 4, 20);
+        CHECK.fault(0, "person 0;lot 0 8 0;", 4, 19);
+        CHECK.fault(0, "person 0;lot 1 0 0;", 4, 19);
+        CHECK.fault(0, "hours 9;person 0;does 0 8 0;hours 8;", 4, 36);
+        CHECK.good(0, "does 0 8 0;lot 0 8 2;hours 9;person 0;");
+        CHECK.good(0, "hours 2;hours 9;person 0;does 0 8 0;");
+        CHECK.fault(0, "does 0 0 0;gain 6 0 once;", 2, 16);
     }
 
     private static void laterOnes() {
