@@ -444,6 +444,13 @@ public final class PromiseEdgeTest {
         none("of errands", 1, e -> x.plan(0, e, 0), NO, true);
         others("plan", w -> x.plan(0, 0, w), NO, 7, 8, 9, 12, 13, 15, 16, 20);
         CHECK.row("hours", 10, w -> x.plan(0, 0, w), 0, 1, NO);
+        // Each what asked alone, of a new object and behind another row.
+        for (int what = 0; what <= 6; what++) {
+            GluedHour y = Check.with(Check.TOWN, null, "errand 0 0 2;errand 2 0 1;");
+            CHECK.due("alone, what " + what, y.plan(0, 0, what), x.plan(0, 0, what));
+            Check.tell(y, 2, 0, "errand 0 0 0;");
+            CHECK.due("behind another, what " + what, y.plan(0, 0, what), new int[] {15, 2, 15, 2, 0, 1, NONE}[what]);
+        }
         GluedHour cannot = Check.with("", null, "errand 0 1 1;errand 0 1 1;");
         CHECK.row("can't be done", -1, w -> cannot.plan(0, 0, w), NO, NO, NO, NO, NO, NO, NO, NO, NO, NO, NO, NO, NO, NO);
         GluedHour empty = Check.with("", null, "");
@@ -616,7 +623,7 @@ public final class PromiseEdgeTest {
         Check.tell(x, 1, NONE, "stuck 12;");
         Check.tape(x, "stuck 2;");
         CHECK.due("an image", x.image(0), true);
-        Check.tell(x, 1, 0, "");
+        Check.tell(x, 1, 0, "stuck 9;stuck 9;");
         CHECK.due("that image", x.again(0), true);
         CHECK.row("its fault", 0, x::fault, 2, 6);
         CHECK.due("its week", x.day(0, 0), 1);

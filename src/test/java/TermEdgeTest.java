@@ -286,6 +286,8 @@ public final class TermEdgeTest {
     private static void allButTheLast() {
         CHECK.due("the last one's ride", table("hours 3;", "train 0 1;train 5 9;").holds(0, 0, NONE), 5);
         CHECK.due("an hour less", table("hours 12;", "train 0 1;train 5 9;").holds(0, 0, NONE), 4);
+        // From hour 0 to the hour behind the last one every STUCK hour is passed.
+        CHECK.due("hours that may be stuck alone", table("hours 3;", "train 0 1;train 3 1;").holds(0, 0, NONE), 3);
         CHECK.due("one", table("", "train 11 9;").holds(0, 0, NONE), 1000);
         CHECK.due("none", table("", "").holds(0, 0, NONE), 1000);
         CHECK.due("one always holds", table("", "train 11 9;").holds(0, 0, 7), 1);
